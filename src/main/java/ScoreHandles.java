@@ -1159,7 +1159,7 @@ public final class ScoreHandles {
             if (failure != 0) {
                 return 0;
             }
-            handOn(depth, 0, 0);
+            // What t was run with still stands there, since t wrote deeper alone.
             return perform(isTrue != 0 ? handle.b : handle.c, depth + 1);
         }
 

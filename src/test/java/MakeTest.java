@@ -90,6 +90,10 @@ public final class MakeTest {
             make(x, 9, 4, b, 0, 0, -1);
         }
         CHECKS.due("none is made", x.count(1), 0);
+        make(x, 1, 4, 0, 0, 0, 0);
+        for (int sort : new int[] {-1, -32, 23, 24, 43, 54, Integer.MIN_VALUE}) {
+            make(x, sort, 0, 0, 0, 0, -1);
+        }
     }
 
     private static void constantsOfRows() {
