@@ -27,6 +27,8 @@ public final class KindBoundsTest {
         itemsAtFirst();
         kindsGo();
         valuesGo();
+        floatsGo();
+        wholesGo();
         typesMany();
         typesGoByMany();
         typesGoByEach();
@@ -227,9 +229,6 @@ public final class KindBoundsTest {
 
     private static void lanes() {
         Bench b = bench("ROWS have a LANE (0 .. 7, a KIND)");
-        for (int lane = 0; lane <= 7; lane++) {
-            b.due("row(" + lane + ", 1)", b.x.row(lane, 1), lane);
-        }
         for (int lane : new int[] {-1, 8, 15, 16, LEAST, MOST}) {
             b.due("row(" + lane + ", 1)", b.x.row(lane, 1), -1);
             for (int sort : new int[] {Bench.READ, Bench.WRITE, Bench.SIZE, Bench.NEW,
@@ -238,10 +237,17 @@ public final class KindBoundsTest {
             }
         }
         for (int lane = 0; lane <= 7; lane++) {
-            b.gives(b.make(Bench.CAST, lane), lane, lane);
+            b.due("row(" + lane + ", 1)", b.x.row(lane, 1), lane);
+        }
+        for (int lane = 0; lane <= 7; lane++) {
+            Bench each = bench("ROWS have a LANE (0 .. 7, a KIND)");
+            int cast = each.make(Bench.CAST, lane);
             for (int row = 0; row <= 7; row++) {
-                if (row != lane) {
-                    b.fails(lane, 5, lane, row);
+                each.row(row, 0);
+                if (row == lane) {
+                    each.gives(cast, row, row);
+                } else {
+                    each.fails(cast, 5, cast, row);
                 }
             }
         }
@@ -326,6 +332,47 @@ public final class KindBoundsTest {
             b.type(Bench.INT, kind);
             b.runs(self, false, 1);
             b.due("value() of kind " + kind, b.x.value(), want[kind - 1]);
+        }
+    }
+
+    private static void floatsGo() {
+        Bench b = bench("KINDS GO: 6 to 7 (as the machine widens)");
+        int self = b.make(Bench.SELF, Bench.DOUBLE);
+        b.type(Bench.DOUBLE, Bench.FLOAT);
+        float[] floats = {0, Float.MIN_VALUE, 3 * Float.MIN_VALUE, 0x0.fffffep-126f,
+            Float.MIN_NORMAL, 1, 0x1.000002p0f, Float.MAX_VALUE, Float.POSITIVE_INFINITY};
+        for (float each : floats) {
+            for (float signed : new float[] {each, -each}) {
+                b.given(Float.floatToIntBits(signed));
+                b.runs(self, false, 1);
+                b.due("value() of " + signed, b.x.value(), Double.doubleToLongBits(signed));
+            }
+        }
+        b.given(NO_FLOAT);
+        b.runs(self, false, 1);
+        b.due("value() of what is no number", b.x.value(), NO_DOUBLE);
+    }
+
+    /** The wholes about those that have no float, no double of their own any more. */
+    private static void wholesGo() {
+        for (int places : new int[] {24, 25, 53, 54, 62}) {
+            Bench b = bench("KINDS GO: 5 to 6, 7 (as the machine widens)");
+            int floats = b.make(Bench.SELF, Bench.FLOAT);
+            int doubles = b.make(Bench.SELF, Bench.DOUBLE);
+            for (long less = -3; less <= 6; less++) {
+                long whole = (1L << places) + less;
+                for (long signed : new long[] {whole, -whole}) {
+                    b.given(signed);
+                    b.type(Bench.FLOAT, Bench.LONG);
+                    b.runs(floats, false, 1);
+                    b.due("value() of " + signed, b.x.value(),
+                        Float.floatToIntBits((float) signed));
+                    b.type(Bench.DOUBLE, Bench.LONG);
+                    b.runs(doubles, false, 1);
+                    b.due("value() of " + signed, b.x.value(),
+                        Double.doubleToLongBits((double) signed));
+                }
+            }
         }
     }
 

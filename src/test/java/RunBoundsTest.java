@@ -482,7 +482,8 @@ public final class RunBoundsTest {
     private static void realsAtTheirEnds() {
         String sentence = "6 SUM, 7 QUOTIENT of floats and doubles, at their ends";
         float[] floats = {Float.MAX_VALUE, Float.MIN_NORMAL, Float.MIN_VALUE, 2, 0.5f, 3,
-            Float.POSITIVE_INFINITY, 0x1p103f, 0x1.fffffep102f};
+            Float.POSITIVE_INFINITY, 0x1p103f, 0x1.fffffep102f, 0, -0f, Float.NaN, 1, 0x1p-24f,
+            0x1.000002p-24f, 0x1.000002p0f, 0x1p-62f, 0x1p-63f, -1, 0x1p-126f, 0x1p24f};
         for (float first : floats) {
             for (float second : floats) {
                 Bench b = bench(sentence);
@@ -490,13 +491,15 @@ public final class RunBoundsTest {
                 int x = Float.floatToIntBits(first);
                 int y = Float.floatToIntBits(second);
                 b.gives(sum, Float.floatToIntBits(first + second), x, y);
-                b.gives(sum, Float.floatToIntBits(first - second), x, y | LEAST);
-                b.gives(b.make(Bench.QUOTIENT, Bench.FLOAT), Float.floatToIntBits(first / second),
-                    x, y);
+                b.gives(sum, Float.floatToIntBits(first - second), x, y ^ LEAST);
+                int quotient = b.make(Bench.QUOTIENT, Bench.FLOAT);
+                b.gives(quotient, Float.floatToIntBits(first / second), x, y);
+                b.gives(quotient, Float.floatToIntBits(first / -second), x, y ^ LEAST);
             }
         }
         double[] doubles = {Double.MAX_VALUE, Double.MIN_NORMAL, Double.MIN_VALUE, 2, 0.5, 3,
-            Double.POSITIVE_INFINITY, 0x1p970, 0x1.fffffffffffffp969};
+            Double.POSITIVE_INFINITY, 0x1p970, 0x1.fffffffffffffp969, 0, -0.0, Double.NaN, 1,
+            0x1p-53, 0x1.0000000000001p-53, 0x1.0000000000001p0, 0x1p-62, 0x1p-63, -1, 0x1p53};
         for (double first : doubles) {
             for (double second : doubles) {
                 Bench b = bench(sentence);
@@ -504,9 +507,11 @@ public final class RunBoundsTest {
                 long x = Double.doubleToLongBits(first);
                 long y = Double.doubleToLongBits(second);
                 b.gives(sum, Double.doubleToLongBits(first + second), x, y);
-                b.gives(sum, Double.doubleToLongBits(first - second), x, y | Long.MIN_VALUE);
-                b.gives(b.make(Bench.QUOTIENT, Bench.DOUBLE),
-                    Double.doubleToLongBits(first / second), x, y);
+                b.gives(sum, Double.doubleToLongBits(first - second), x, y ^ Long.MIN_VALUE);
+                int quotient = b.make(Bench.QUOTIENT, Bench.DOUBLE);
+                b.gives(quotient, Double.doubleToLongBits(first / second), x, y);
+                b.gives(quotient, Double.doubleToLongBits(first / -second), x,
+                    y ^ Long.MIN_VALUE);
             }
         }
     }
