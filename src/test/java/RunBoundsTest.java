@@ -651,7 +651,7 @@ public final class RunBoundsTest {
 
     /** Each sort as the 2001st step, and what it is made of: what begins, in its order. */
     private static void stepsSpentAtEach() {
-        for (int which = 0; which < 22; which++) {
+        for (int which = 0; which < 24; which++) {
             Bench b = bench("7 SPENT: of 7: that at which it came (" + which + ")");
             int[] begins = begins(b, which);
             int value = begins[0];
@@ -753,6 +753,14 @@ public final class RunBoundsTest {
                 return new int[] {5, b.make(Bench.CATCH, five, -1, self), five};
             case 20:
                 return new int[] {5, b.make(Bench.LAST, five, sum), five, sum};
+            case 22:
+                b.type(INT);
+                return new int[] {5, b.make(Bench.AS, five), five};
+            case 23:
+                // What LAST lets go on is spent with g, and held with what comes behind it.
+                int fail = fail(b, INT, 0);
+                made = b.make(Bench.LAST, fail, sum);
+                return new int[] {20, b.make(Bench.CATCH, made, 20, self), made, fail, sum, self};
             default:
                 made = b.make(Bench.LOOP, sum);
                 int twice = b.bind(made, 2);
