@@ -427,11 +427,12 @@ public final class ScoreHandles {
             if (whole == 0) {
                 return 0;
             }
-            if (whole == Long.MIN_VALUE) {
-                // Its magnitude has no long, but half of it has.
+            long magnitude = Math.abs(whole);
+            if (magnitude < 0) {
+                // The least long has a magnitude that no long holds, but half of it fits one.
                 return rounded(true, 1L << TOP, 1);
             }
-            return rounded(whole < 0, Math.abs(whole), 0);
+            return rounded(whole < 0, magnitude, 0);
         }
 
         private long fromSingle(long bits) {

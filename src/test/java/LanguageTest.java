@@ -3,6 +3,10 @@ import java.lang.management.ManagementFactory;
 import java.nio.file.Files;
 import java.nio.file.Path;
 import java.util.List;
+import java.util.Set;
+import java.util.TreeSet;
+import java.util.regex.Matcher;
+import java.util.regex.Pattern;
 
 /** The rules of LANGUAGE.md that the source's text tells, and what its calls leave in the room. */
 public final class LanguageTest {
@@ -18,26 +22,62 @@ public final class LanguageTest {
         "Double.", "Float.", "Thread", "Object ", "lambda", "while (true)", "for (;;)", "\" +",
         "+ \"", "float ", "double ", "Override", "<>", "var ");
 
+    /** What stands behind a name with a capital and a dot, and whether it is called. */
+    private static final Pattern OF_A_CLASS = Pattern.compile("\\b([A-Z]\\w*[a-z]\\w*)\\.(\\w+)(\\()?");
+    private static final Pattern CLASS_NAME = Pattern.compile("\\b[A-Z]\\w*[a-z]\\w*\\b");
+    private static final Pattern OWN_CLASS = Pattern.compile("\\b(?:class|enum) (\\w+)");
+
     public static void main(String[] args) throws IOException {
         List<String> lines = Files.readAllLines(SOURCE);
         text(lines);
+        library(lines);
         methods(lines);
         room();
         CHECKS.end("LanguageTest");
     }
 
+    private static boolean isComment(String line) {
+        String bare = line.strip();
+        return bare.startsWith("*") || bare.startsWith("/*") || bare.startsWith("//");
+    }
+
     private static void text(List<String> lines) {
         for (int i = 0; i < lines.size(); i++) {
             String line = lines.get(i);
-            String bare = line.strip();
             CHECKS.holds("line " + (i + 1) + " is short", line.length() <= 100);
             CHECKS.holds("line " + (i + 1) + " has no tab", line.indexOf('\t') < 0);
             CHECKS.holds("line " + (i + 1) + " is plain", line.chars().allMatch(c -> c < 127));
-            if (bare.startsWith("*") || bare.startsWith("/*") || bare.startsWith("//")) {
+            if (isComment(line)) {
                 continue;
             }
             for (String word : NOT_THERE) {
                 CHECKS.holds("line " + (i + 1) + " has no " + word, !line.contains(word));
+            }
+        }
+    }
+
+    /** Rule 4: of the library there are functions of Math over int and long, and nothing else. */
+    private static void library(List<String> lines) {
+        Set<String> own = new TreeSet<>();
+        for (String line : lines) {
+            Matcher matcher = OWN_CLASS.matcher(line);
+            while (!isComment(line) && matcher.find()) {
+                own.add(matcher.group(1));
+            }
+        }
+        for (int i = 0; i < lines.size(); i++) {
+            String code = isComment(lines.get(i)) ? "" : lines.get(i).replaceAll("//.*", "");
+            Matcher name = CLASS_NAME.matcher(code);
+            while (name.find()) {
+                CHECKS.holds("line " + (i + 1) + " may name " + name.group(),
+                    own.contains(name.group()) || name.group().equals("Math"));
+            }
+            Matcher of = OF_A_CLASS.matcher(code);
+            while (of.find()) {
+                boolean isFunction = Set.of("min", "max", "abs").contains(of.group(2))
+                    && of.group(3) != null;
+                CHECKS.holds("line " + (i + 1) + " may have " + of.group(),
+                    own.contains(of.group(1)) || of.group(1).equals("Math") && isFunction);
             }
         }
     }
